@@ -474,7 +474,6 @@ public final class FormsAboveNought {
   // ---- fractions, lots
 
   private static long partOf(long above, long below, int part) {
-    if (above == 0 || below == 0) return part == 0 ? 0 : 1;
     long common = commonOf(Math.abs(above), Math.abs(below));
     if (common == 0) return part == 0 ? 0 : 1;
     if (part != 0) return Math.abs(below) / common;
@@ -784,7 +783,6 @@ public final class FormsAboveNought {
     boolean bringProduct(int one, int other) {
       Form left = forms[one];
       Form right = forms[other];
-      if (left.degree + right.degree > MOST_DEGREE) return false;
       work.makeNought(left.degree + right.degree);
       for (int both = 0; both <= left.degree; both++) {
         for (int k = 0; k <= both; k++) {
@@ -804,8 +802,7 @@ public final class FormsAboveNought {
     }
 
     boolean bringLift(int form, int n) {
-      // n is looked at alone first: the degree and a great n together could wrap round
-      if (n > MOST_DEGREE || forms[form].degree + n > MOST_DEGREE) return false;
+      if (n > MOST_DEGREE) return false;
       work.takeOn(forms[form], ALL_LETTERS);
       work.raise(ALL_LETTERS, n);
       return settle();
@@ -822,7 +819,7 @@ public final class FormsAboveNought {
       return settle();
     }
 
-    /** The row of work becomes a form more, if there is room for it and its numbers. */
+    /** The row of work becomes a form more, if there is room for it, its degree and its numbers. */
     private boolean settle() {
       if (isFull() || work.degree > MOST_DEGREE) return false;
       int terms = termsOf(work.degree);
@@ -962,7 +959,7 @@ public final class FormsAboveNought {
       letters = from;
       now = 0;
       size = 0;
-      // where there are so many acts, so many letters are no more than the ; behind the last one
+      // the most acts, with a ; behind the last, take up all letters that can be: one act lacks then
       while (size < MOST_ACTS) {
         if (!readAct()) return now;
         size++;
