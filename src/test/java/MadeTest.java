@@ -36,7 +36,7 @@ public final class MadeTest {
     wall(told(0, 1), 4, 0, 1, 3, 3, 1);
     FormsAboveNought x = told(0, 0, 0, 0, 0, 0, 0, 0, 1000000);
     Due.is("the most", x.walls(1, 16, 12), 70000000);
-    FormsAboveNought y = told(1, 2, 3, 4, 5, 6, 7, 8, 2000000);
+    FormsAboveNought y = told(1, 2, 2000000, 4, 5, 6, 7, 8, 9);
     y.list(1, 2);
     y.put(1, 0, 4);
     wall(y, 3, 4, 12, 12, 4);
