@@ -1,3 +1,6 @@
+import java.lang.reflect.Method;
+import java.util.Arrays;
+
 /** What the tests share: they tell each answer that is not the one that is due. */
 final class Due {
   static final long FAR = 4000000000000000000L;
@@ -20,6 +23,22 @@ final class Due {
     if (got.equals(due)) return;
     wrong++;
     System.out.println(call + " answered " + got + ", due is " + due);
+  }
+
+  /** A call by its name: all calls take ints alone. */
+  static long ask(FormsAboveNought x, String call, int... p) {
+    Class<?>[] types = new Class<?>[p.length];
+    Object[] values = new Object[p.length];
+    for (int n = 0; n < p.length; n++) {
+      types[n] = int.class;
+      values[n] = p[n];
+    }
+    try {
+      Method method = FormsAboveNought.class.getMethod(call, types);
+      return ((Number) method.invoke(x, values)).longValue();
+    } catch (ReflectiveOperationException e) {
+      throw new IllegalStateException(call + Arrays.toString(p), e);
+    }
   }
 
   /** All refusals so far, -1 .. -6, each told by its number in turn. */

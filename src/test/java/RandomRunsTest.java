@@ -1,4 +1,4 @@
-import java.lang.reflect.Method;
+import java.util.Arrays;
 import java.util.Random;
 
 /** All promises: random runs of calls, each answered as the plain model answers it. */
@@ -21,7 +21,7 @@ public final class RandomRunsTest {
     random = new Random(seed);
   }
 
-  public static void main(String[] args) throws Exception {
+  public static void main(String[] args) {
     int runs = args.length > 0 ? Integer.parseInt(args[0]) : 400;
     int from = args.length > 1 ? Integer.parseInt(args[1]) : 0;
     int wrong = 0;
@@ -37,7 +37,7 @@ public final class RandomRunsTest {
     if (wrong != 0) System.exit(1);
   }
 
-  private boolean goesRight(int calls) throws Exception {
+  private boolean goesRight(int calls) {
     while (asked < calls - 80 && right) {
       int choice = random.nextInt(100);
       if (choice < 8) {
@@ -66,25 +66,18 @@ public final class RandomRunsTest {
     return right;
   }
 
-  private void ask(String call, int... p) throws Exception {
+  private void ask(String call, int... p) {
     asked++;
-    Class<?>[] types = new Class<?>[p.length];
-    Object[] values = new Object[p.length];
-    for (int n = 0; n < p.length; n++) {
-      types[n] = int.class;
-      values[n] = p[n];
-    }
-    Method method = FormsAboveNought.class.getMethod(call, types);
-    long got = ((Number) method.invoke(x, values)).longValue();
+    long got = Due.ask(x, call, p);
     long due = plain.ask(call, p);
-    run.append(call).append(java.util.Arrays.toString(p)).append(" ").append(got).append('\n');
+    run.append(call).append(Arrays.toString(p)).append(" ").append(got).append('\n');
     if (got != due) {
       run.append("   due is ").append(due).append('\n');
       right = false;
     }
   }
 
-  private void write(String text) throws Exception {
+  private void write(String text) {
     // what stands there would mostly spoil it
     if (random.nextInt(9) > 0) ask("acts");
     for (int n = 0; n < text.length() && right; n++) ask("letter", text.charAt(n));
@@ -115,7 +108,7 @@ public final class RandomRunsTest {
     }
   }
 
-  private void doneAndUndone() throws Exception {
+  private void doneAndUndone() {
     int form = random.nextInt(3);
     for (int n = random.nextInt(random.nextInt(6) == 0 ? 25 : 4); n >= 0; n--) {
       if (random.nextBoolean()) {
@@ -128,7 +121,7 @@ public final class RandomRunsTest {
     for (int n = random.nextInt(3); n >= 0; n--) ask("undo");
   }
 
-  private void aPolynomial() throws Exception {
+  private void aPolynomial() {
     int list = random.nextInt(3);
     int many = random.nextInt(6);
     ask("list", list, many);
@@ -141,7 +134,7 @@ public final class RandomRunsTest {
   }
 
   /** Forms of one degree with numbers near one another, so that some are made of others. */
-  private void smallNumbers() throws Exception {
+  private void smallNumbers() {
     while (random.nextInt(5) > 0) ask("drop");
     int degree = random.nextInt(2);
     for (int f = random.nextInt(3); f < 5 && right; f++) {
