@@ -769,7 +769,8 @@ public final class FormsAboveNought {
         case TIMES: return !lacks(second) && bringProduct(first, second);
         case LIFT: return bringLift(first, second);
         case MINUS: return bringNegative(first);
-        default: return isSide(second) && bringOn(first, second);
+        case SIDE: return isSide(second) && bringOn(first, second);
+        default: return false;
       }
     }
 

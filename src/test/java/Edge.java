@@ -89,30 +89,36 @@ final class Edge {
     plain(x, text);
     // where there are six, letters can't be read
     if (x.count(0) == 6) x.drop();
-    text.append("letters ").append(x.form());
-    forms(x, text);
-    text.append("image ").append(x.back());
+    int come = x.form();
+    text.append("letters ").append(come).append(' ');
+    if (come >= 0) form(x, come, text);
+    int kept = x.back();
+    text.append("image ").append(kept);
+    if (kept < 0) return text.toString();
     forms(x, text);
     plain(x, text);
     return text.toString();
   }
 
   private static void row(FormsAboveNought x, int list, StringBuilder text) {
-    int i = 0;
-    while (x.look(list, i) < Due.FAR) {
-      text.append(x.look(list, i)).append(' ');
-      i++;
+    long number = x.look(list, 0);
+    for (int i = 1; number < Due.FAR; i++) {
+      text.append(number).append(' ');
+      number = x.look(list, i);
     }
-    text.append(x.look(list, i) == Due.FAR + 11 ? "missing\n" : "row\n");
+    text.append(number == Due.FAR + 11 ? "missing\n" : "row\n");
   }
 
   private static void forms(FormsAboveNought x, StringBuilder text) {
-    for (int form = 0; form < x.count(0); form++) {
-      for (int what = 0; what <= 2; what++) text.append(x.of(form, what)).append(' ');
-      int terms = x.of(form, 3);
-      for (int term = 0; term < terms; term++) text.append(x.coefficient(form, term)).append(' ');
-    }
+    int many = x.count(0);
+    for (int form = 0; form < many; form++) form(x, form, text);
     text.append('\n');
+  }
+
+  private static void form(FormsAboveNought x, int form, StringBuilder text) {
+    for (int what = 0; what <= 2; what++) text.append(x.of(form, what)).append(' ');
+    int terms = x.of(form, 3);
+    for (int term = 0; term < terms; term++) text.append(x.coefficient(form, term)).append(' ');
   }
 
   /** The told numbers: the coefficients, if all kinds are plain. */

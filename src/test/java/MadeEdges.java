@@ -48,6 +48,16 @@ final class MadeEdges {
       isNone(told(far, 0, 0, 0, 0, 0, 0, 0, 0));
       isNone(told(0, 0, 0, 0, 0, 0, 0, 0, far));
     }
+    // what stood behind the places that there are now tells nothing
+    FormsAboveNought shorter = told(1, 2, 4000000, 8, 16, 32, 64, 128, 256);
+    shorter.list(0, 2);
+    Edge.is(shorter, 1, "wallsLeast", 0, 0);
+    shorter.list(0, 4);
+    for (int i = 0; i < 4; i++) shorter.put(0, i, 5000000);
+    shorter.list(0, 2);
+    shorter.put(0, 0, 3);
+    Edge.is(shorter, 9, "walls", 0, 3, 1);
+    Edge.is(shorter, 3, "walls", 0, 3, 3);
     FormsAboveNought none = told();
     for (int d = 0; d <= 16; d++) {
       Edge.is(none, 0, "walls", 0, d, 0);
@@ -129,6 +139,7 @@ final class MadeEdges {
     made(x, 3, 0b000111, 1, 2, 1);
     made(x, 3, 0b000111, 2, 3, 1);
     made(x, 4, 0b000101, 0, -1, 1);
+    laterTerms();
     notMade(x, 3, 0b010111);
     notMade(x, 3, 0b001000);
     notMade(x, 3, 0b001011);
@@ -179,6 +190,26 @@ final class MadeEdges {
     notMade(y, 4, 0b00001);
   }
 
+  /** Forms without the first terms ahead of others, and forms of degree 6 that differ at the last one. */
+  private static void laterTerms() {
+    FormsAboveNought x = Due.with("c", "b+c", "a+b", "2a+5b+7c", "b", "a");
+    made(x, 3, 0b000111, 0, 4, 1);
+    made(x, 3, 0b000111, 1, 3, 1);
+    made(x, 3, 0b000111, 2, 2, 1);
+    made(x, 2, 0b110000, 4, 1, 1);
+    made(x, 2, 0b110000, 5, 1, 1);
+    FormsAboveNought y = Due.with("a^6-2c^6", "b^6+c^6", "99c^6", "99a^6+98b^6-c^6", "0a^6");
+    made(y, 3, 0b00111, 0, 99, 1);
+    made(y, 3, 0b00111, 1, 98, 1);
+    made(y, 3, 0b00111, 2, 1, 1);
+    notMade(y, 3, 0b00011);
+    notMade(y, 2, 0b00011);
+    made(y, 4, 0b00111, 2, 0, 1);
+    y.change(4, 27, 1);
+    made(y, 4, 0b00100, 2, 1, 99);
+    made(y, 4, 0b00111, 2, 1, 99);
+  }
+
   private static void loose() {
     FormsAboveNought x = Due.with("0a", "a+b", "2a+2b", "b", "3a+4b", "0b");
     made(x, 4, 0b001011, 0, 0, 1);
@@ -222,6 +253,7 @@ final class MadeEdges {
 
   private static void productOfTwo() {
     tries("PRODUCT of two");
+    productsOfKinds();
     FormsAboveNought x = ofKinds();
     Due.is("with itself", x.product(1, 1), 3);
     isNew(x, 3, 0, "9");
@@ -229,6 +261,29 @@ final class MadeEdges {
     isNew(x, 4, 1, "-21a-30b-27c");
     Due.is("of degree 6 and a number", x.product(2, 1), 5);
     isNew(x, 5, 6, "3a^6");
+  }
+
+  /** Of a + 2b + 4c by kind: alone, from both hands of a product. */
+  private static void productsOfKinds() {
+    String[] byKind = {"a+2b+4c", "4a+b+2c", "2b+4c", "a+2b+4c", "2a+4b+c", "2b"};
+    String[] bySquare = {"a^2+4ab+8ac+4b^2+16bc+16c^2", "16a^2+8ab+16ac+b^2+4bc+4c^2", "4b^2+16bc+16c^2",
+        "a^2+4ab+8ac+4b^2+16bc+16c^2", "4a^2+16ab+4ac+16b^2+8bc+c^2", "4b^2"};
+    for (int kind = 0; kind <= 5; kind++) {
+      FormsAboveNought x = Due.with("a+2b+4c", "1");
+      x.turn(0, kind, 0);
+      x.turn(1, kind, 0);
+      Due.is("one by the other", x.product(0, 1), 2);
+      isNew(x, 2, 1, byKind[kind]);
+      Due.is("the other by one", x.product(1, 0), 3);
+      isNew(x, 3, 1, byKind[kind]);
+      Due.is("by itself", x.product(0, 0), 4);
+      isNew(x, 4, 2, bySquare[kind]);
+      // the next comes where one of a kind was
+      x.turn(4, 3, 8);
+      x.drop();
+      Due.is("on all letters", x.on(0, 7), 4);
+      isNew(x, 4, 1, byKind[kind]);
+    }
   }
 
   private static void liftByN() {
@@ -288,6 +343,7 @@ final class MadeEdges {
     farProducts();
     farLifts();
     farOthers();
+    smallBehindFar();
   }
 
   private static void farDegrees() {
@@ -394,6 +450,25 @@ final class MadeEdges {
     Due.is("a negative too far", Due.acts(x, "minus 0"), -2000);
     Due.is("one on a side too far", Due.acts(x, "side 0 3"), -2000);
     Due.is("one on another side", Due.acts(x, "side 0 6"), 1);
+  }
+
+  /** What was reckoned ahead, or could not come, keeps no form from coming. */
+  private static void smallBehindFar() {
+    FormsAboveNought x = Due.with("a^6", "1", "a");
+    for (int term = 0; term < 28; term++) x.change(0, term, 1000000);
+    for (int form = 1; form <= 2; form++) {
+      Edge.is(x, 1000000, "lifted", 0, 7, 12, 189);
+      Edge.is(x, 3, "sum", form, form);
+      Edge.is(x, 4, "negative", form);
+      Edge.is(x, -6, "product", 0, 0);
+      Edge.is(x, 5, "on", form, 7);
+      for (int n = 5; n >= 3; n--) x.drop();
+      Edge.is(x, -6, "sum", 0, 0);
+      Edge.is(x, 3, "product", form, 1);
+      Edge.is(x, -6, "sum", 0, 0);
+      Edge.is(x, 4, "lift", form, 1);
+      for (int n = 4; n >= 3; n--) x.drop();
+    }
   }
 
   private static void spelled() {

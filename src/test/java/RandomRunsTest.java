@@ -27,7 +27,7 @@ public final class RandomRunsTest {
     int wrong = 0;
     for (int seed = from; seed < from + runs; seed++) {
       RandomRunsTest test = new RandomRunsTest(seed);
-      if (!test.goesRight(seed % 2 == 0 ? 512 : 120)) {
+      if (!test.goesRight(seed % 2 == 0 ? 380 : 50)) {
         wrong++;
         System.out.println("run " + seed + ":\n" + test.run);
         if (wrong > 3) break;
@@ -37,8 +37,9 @@ public final class RandomRunsTest {
     if (wrong != 0) System.exit(1);
   }
 
+  /** Behind so many calls no more begin; what has begun may take some hundred, and 512 in all are promised. */
   private boolean goesRight(int calls) {
-    while (asked < calls - 80 && right) {
+    while (asked < calls && right) {
       int choice = random.nextInt(100);
       if (choice < 8) {
         write(aForm());

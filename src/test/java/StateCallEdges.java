@@ -124,8 +124,8 @@ final class StateCallEdges {
       Edge.refused(-1, "lays", 0, -1, form);
     }
     for (int i : new int[] {0, -1, 40, Edge.MIN, Edge.MAX}) Edge.refused(-11, "lays", 2, i, 0);
-    int[][] none = {{0, 0, 0}, {0, 0, 1}, {0, -1, 0}, {1, 3, 0}, {1, -1, 0}, {1, 1, 1}, {1, 2, 1}, {1, -1, 1}, {1, 0, 2},
-        {2, 13, 2}, {2, 38, 1}, {2, 40, 0}, {2, -1, 2}, {2, Edge.MAX, 2}, {2, Edge.MAX - 27, 2}, {2, Edge.MIN, 2}};
+    int[][] none = {{0, 0, 0}, {0, 0, 1}, {0, -1, 0}, {1, 3, 0}, {1, -1, 0}, {1, 1, 1}, {1, 2, 1}, {1, -1, 1},
+        {1, 0, 2}, {2, 13, 2}, {2, 38, 1}, {2, 40, 0}, {2, -1, 2}, {2, Edge.MAX, 2}, {2, Edge.MAX - 27, 2}, {2, Edge.MIN, 2}};
     for (int[] p : none) Edge.refused(StateCallEdges::layers, -13, "lays", p);
     Edge.is(layers(), 3, "lays", 2, 37, 1);
     Edge.is(layers(), 1, "lays", 2, 39, 0);

@@ -146,6 +146,7 @@ final class StateEdges {
   private static void undone() {
     tries("What change(), turn() made can be UNDONE");
     eachCounts();
+    eachTerm();
     sixteenAtMost();
     aroundTheSixteen();
     whatLeavesNone();
@@ -174,6 +175,27 @@ final class StateEdges {
     Edge.is(x, 0, "undo");
     Edge.is(x, 4, "coefficient", 0, 0);
     Edge.is(x, -3, "undo");
+  }
+
+  /** A change at each term of degree 6, between turns from each kind with a figure to another. */
+  private static void eachTerm() {
+    FormsAboveNought x = Due.with("a^6", "b");
+    for (int term = 0; term < 28; term++) {
+      int kind = term % 6;
+      int figure = 9 - term % 10;
+      x.turn(0, kind, figure);
+      int was = x.change(0, term, 7 + term);
+      x.turn(0, 5 - kind, 9 - figure);
+      x.change(0, term, -1000000);
+      x.undo();
+      x.undo();
+      Edge.is(x, kind, "of", 0, 0);
+      Edge.is(x, figure, "of", 0, 1);
+      Edge.is(x, 7 + term, "change", 0, term, 7 + term);
+      x.undo();
+      x.undo();
+      Edge.is(x, was, "change", 0, term, was);
+    }
   }
 
   private static void sixteenAtMost() {
@@ -276,9 +298,24 @@ final class StateEdges {
     Due.form(x, "a-b");
     Edge.is(x, 0, "back");
     Edge.is(x, -1, "of", 0, 0);
+    ofEachDegree();
     sixForms();
     allThatIsTheirs();
     takenAnew();
+  }
+
+  private static void ofEachDegree() {
+    FormsAboveNought x = Due.with("2a^6-c^6", "3", "a");
+    Edge.is(x, 3, "image");
+    for (int n = 2; n >= 0; n--) x.drop();
+    Due.form(x, "9");
+    Due.form(x, "9b^6");
+    Due.form(x, "9c");
+    Edge.is(x, 3, "back");
+    Due.is("of degree 6", Due.spelling(x, 0), "2a^6-c^6");
+    Due.is("of degree 0", Due.spelling(x, 1), "3");
+    Due.is("of degree 1", Due.spelling(x, 2), "a");
+    for (int form = 0; form <= 2; form++) Edge.is(x, new int[] {6, 0, 1}[form], "of", form, 2);
   }
 
   private static void sixForms() {

@@ -91,6 +91,11 @@ final class TermEdges {
     Due.is("the sixth goes", x.drop(), 5);
     Due.is("its number comes again", x.form(), 5);
     Due.is("as another", x.coefficient(5, 0), 4);
+    x.change(5, 0, 44);
+    x.turn(5, 3, 9);
+    x.drop();
+    Due.is("where another was, changed and turned", Due.form(x, "c"), 5);
+    Due.is("there is but the new one", Due.spelling(x, 5), "c");
     for (int form = 0; form < 6; form++) {
       Due.is("kind of a new one", x.of(form, 0), 0);
       Due.is("figure of a new one", x.of(form, 1), 0);
@@ -357,6 +362,15 @@ final class TermEdges {
     fails(Due.with("a+b-c"), 7, 1, 2, 1, 2);
     fails(Due.with("a+b"), 4, -9, -9, 1, 0);
     fails(Due.with("1"), 7, -9, -9, -9, -9);
+    // no point has a number below 0: of each letter none has a value below 0, on any side
+    for (int side : SIDES) {
+      for (int letter = 0; letter <= 2; letter++) {
+        FormsAboveNought x = Due.with(new String[] {"a", "b", "c"}[letter]);
+        Edge.is(x, -9, "failing", 0, side, 0, 0);
+        Edge.is(x, -9, "failing", 0, side, 0, 1);
+        Edge.is(x, side == 1 << letter ? -9 : 1, "failing", 0, side, 1, 0);
+      }
+    }
   }
 
   private static void fails(FormsAboveNought x, int side, int n0, int point0, int n1, int point1) {

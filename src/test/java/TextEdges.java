@@ -30,22 +30,18 @@ final class TextEdges {
     Due.is("form " + text, Due.form(new FormsAboveNought(), text), -1000 - place);
   }
 
-  private static String often(String text, int times) {
-    return text.repeat(times);
-  }
-
   private static void formsInLetters() {
     tries("A FORM is told in letters (72 at most), without blanks");
-    comes("a" + often("+b", 35) + "", "a+35b");
-    comes("-a" + often("-b", 35), "-a-35b");
-    comes("10a" + often("+a", 34) + "", "44a");
-    comes("-a^6" + often("-b^6", 17), "-a^6-17b^6");
-    comes("100" + often("+999", 17) + "", "17083");
-    fault("10a" + often("+a", 34) + "+", 72);
-    fault(often("+a", 36), 0);
-    fault("a" + often("+b", 35) + "c", 71);
+    comes("a" + "+b".repeat(35), "a+35b");
+    comes("-a" + "-b".repeat(35), "-a-35b");
+    comes("10a" + "+a".repeat(34), "44a");
+    comes("-a^6" + "-b^6".repeat(17), "-a^6-17b^6");
+    comes("100" + "+999".repeat(17), "17083");
+    fault("10a" + "+a".repeat(34) + "+", 72);
+    fault("+a".repeat(36), 0);
+    fault("a" + "+b".repeat(35) + "c", 71);
     FormsAboveNought x = new FormsAboveNought();
-    Due.type(x, "a" + often("+b", 35) + "+");
+    Due.type(x, "a" + "+b".repeat(35) + "+");
     Due.is("a letter behind 72", x.letter('c'), -6);
     Due.is("what 72 tell", x.form(), -1072);
     fault(" a", 0);
@@ -201,8 +197,8 @@ final class TextEdges {
     comes("a-a", "0");
     comes("ab-3ab+2a^1b^1", "0");
     comes("1-2", "-1");
-    comes("999" + often("+999", 17), "17982");
-    comes("-999" + often("-999", 16), "-16983");
+    comes("999" + "+999".repeat(17), "17982");
+    comes("-999" + "-999".repeat(16), "-16983");
     comes("a^2+ab+b^2-ab", "a^2+b^2");
     comes("5c-3c-2c+b", "b");
   }
@@ -224,7 +220,7 @@ final class TextEdges {
     done("minus 0", 1);
     done("minus 0;minus 0", 2);
     done("minus 0;minus 0;minus 0;minus 0", 4);
-    String most = "minus 0" + often(";minus 0", 8);
+    String most = "minus 0" + ";minus 0".repeat(8);
     done(most, -2032);
     actFault(most + ";", 72);
     actFault(most + ",", 71);
@@ -288,6 +284,13 @@ final class TextEdges {
       actFault(word + " 0 0", 0);
       actFault("minus 0;" + word, 8);
       actFault("minus 0;" + word + " 0", 8);
+    }
+    for (String word : new String[] {"sum", "times", "lift", "minus", "side"}) {
+      for (int n = 0; n < word.length(); n++) {
+        String other = word.substring(0, n) + (char) (word.charAt(n) + 1) + word.substring(n + 1);
+        actFault(other + " 0 0", 0);
+        actFault("minus 0;" + other + " 0", 8);
+      }
     }
     actFault("sum`", 3);
     actFault("sum{", 3);
