@@ -447,6 +447,10 @@ public final class FormsAboveNought {
     return side >= 1 && side <= ALL_LETTERS;
   }
 
+  private static boolean standsOn(int side, int i, int j, int k) {
+    return (i == 0 || (side & 1) != 0) && (j == 0 || (side & 2) != 0) && (k == 0 || (side & 4) != 0);
+  }
+
   /** How many terms of a degree, or points of a size, there are on a side. */
   private static int placesOn(int side, int n) {
     int sides = Integer.bitCount(side);
@@ -573,11 +577,15 @@ public final class FormsAboveNought {
       for (int t = 0; t < termsOf(degree); t++) cell[t] = 0;
     }
 
+    /** The form on a side: 0 where a letter stands that is none of the side's. */
     void takeOn(Form form, int side) {
-      makeNought(form.degree);
-      for (int p = 0; p < placesOn(side, degree); p++) {
-        int t = numberOn(side, degree, p);
-        cell[t] = form.at(t);
+      degree = form.degree;
+      for (int both = 0; both <= degree; both++) {
+        for (int k = 0; k <= both; k++) {
+          int i = degree - both;
+          int j = both - k;
+          cell[termOf(j, k)] = standsOn(side, i, j, k) ? form.has(i, j, k) : 0;
+        }
       }
     }
 

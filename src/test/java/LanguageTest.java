@@ -34,6 +34,8 @@ public final class LanguageTest {
       }
     }
     lengths(lines);
+    depth(lines);
+    room(lines);
     Due.end();
   }
 
@@ -80,6 +82,26 @@ public final class LanguageTest {
       int end = n;
       while (end < lines.size() && !lines.get(end).equals(blanks + "}")) end++;
       Due.is("line " + (n + 1) + " opens a long method", end - n > 60 ? end - n : 0, 0);
+    }
+  }
+
+  private static void depth(List<String> lines) {
+    CallDepth calls = new CallDepth(lines);
+    int most = calls.most();
+    Due.is("calls go more than eight deep from " + calls.deepest(), most > 8 ? most : 0, 0);
+    Due.is("methods are found", calls.methods() > FACE.length ? 1 : 0, 1);
+  }
+
+  /** Objects and arrays are made with the object alone: in fields, or in a constructor. */
+  private static void room(List<String> lines) {
+    boolean constructor = false;
+    for (int n = 0; n < lines.size(); n++) {
+      String line = lines.get(n);
+      if (line.matches("    [A-Z]\\w+\\(\\) \\{")) constructor = true;
+      if (line.equals("    }")) constructor = false;
+      boolean makes = line.matches(".*(\\bnew |\\.clone\\(|\\bArrays\\.).*") && !line.matches("\\s+/?\\*.*");
+      boolean field = line.matches("\\s+(private )?final [\\w\\[\\]]+ \\w+ = new .*;");
+      Due.is("line " + (n + 1) + " makes something", makes && !field && !constructor ? 1 : 0, 0);
     }
   }
 }
